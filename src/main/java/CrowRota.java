@@ -165,7 +165,7 @@ public final class CrowRota {
                         return ERROR;
                     }
                     long joined = join(now, stack[top - 2], stack[top - 1]);
-                    if (joined == ERROR) {
+                    if (joined > BOUND || joined < -BOUND) {
                         return ERROR;
                     }
                     top--;
@@ -178,9 +178,9 @@ public final class CrowRota {
         private static long join(int sign, long left, long right) {
             switch (sign) {
                 case PLUS:
-                    return bounded(left + right);
+                    return left + right;
                 case MINUS:
-                    return bounded(left - right);
+                    return left - right;
                 case TIMES:
                     // looked at ahead, as a product of two bounded values may be above a long
                     return left != 0 && Math.abs(right) > BOUND / Math.abs(left) ? ERROR : left * right;
@@ -189,10 +189,6 @@ public final class CrowRota {
                 default:
                     return holds(sign, left, right) ? 1 : 0;
             }
-        }
-
-        private static long bounded(long value) {
-            return value > BOUND || value < -BOUND ? ERROR : value;
         }
 
         private static boolean holds(int sign, long left, long right) {
@@ -247,8 +243,8 @@ public final class CrowRota {
         static final int CLOSED = 102;
 
         // in the order of the constants above; RULES as SEE, EAT, PAY; NAMES as in Hours
-        private static final String LANGUAGE = "field crop scare flap most crows gust seed law see eat pay or and not"
-            + " sight far wind hour grade ripe date";
+        private static final String LANGUAGE =
+            "field crop scare flap most crows gust seed law see eat pay or and not sight far wind hour grade ripe date";
         private static final int WORDS = 22;
         private static final int LETTERS = 6;
         private static final int ENOUGH = 1000000;
@@ -325,7 +321,7 @@ public final class CrowRota {
         private void readWord() {
             int packed = 0;
             int letters = 0;
-            for (; isLetter(next); next++) {
+            for (; next < length && isLetter(next); next++) {
                 packed = pack(packed, letters, tape[next]);
                 letters++;
             }
@@ -341,7 +337,7 @@ public final class CrowRota {
 
         private void readNumber() {
             kind = NUMBER;
-            for (; isDigit(next); next++) {
+            for (; next < length && isDigit(next); next++) {
                 // any number of digits may come: beyond ENOUGH all are too much alike
                 value = Math.min(ENOUGH, value * 10 + tape[next] - '0');
             }
@@ -410,7 +406,7 @@ public final class CrowRota {
         int fault;
         int faultPlace = NONE;
 
-        boolean read(Plan into, int length) {
+        void start(Plan into, int length) {
             plan = into;
             plan.clear();
             toldWords = 0;
@@ -420,14 +416,10 @@ public final class CrowRota {
             fault = 0;
             faultPlace = NONE;
             tokens.start(length);
-            // each line takes a byte at least
-            for (int line = 0; line <= TAPE && tokens.kind != Tokens.END; line++) {
-                if (!readLine()) {
-                    return false;
-                }
-                plan.lines++;
-            }
-            return true;
+        }
+
+        boolean atEnd() {
+            return tokens.kind == Tokens.END;
         }
 
         private boolean fail(int number) {
@@ -436,7 +428,7 @@ public final class CrowRota {
             return false;
         }
 
-        private boolean readLine() {
+        boolean readLine() {
             if (tokens.kind != Tokens.WORD) {
                 return fail(MISPLACED);
             }
@@ -470,6 +462,7 @@ public final class CrowRota {
                 return fail(MISPLACED);
             }
             tokens.step();
+            plan.lines++;
             return true;
         }
 
@@ -904,10 +897,6 @@ public final class CrowRota {
             allHours = false;
             drawn = false;
         }
-
-        boolean draws(int day) {
-            return drawn && day > today && day - today <= DAYS;
-        }
     }
 
     /** How HOURS go by, for any State of a Plan. */
@@ -947,8 +936,8 @@ public final class CrowRota {
         }
 
         int windOn(int day) {
-            int ahead = day - twist.today - 1;
-            return twist.draws(day) && ahead >= 0 && ahead < DAYS ? twist.winds[ahead] : plan.windOf(day);
+            int draw = day - twist.today - 1;
+            return twist.drawn && draw >= 0 && draw < DAYS ? twist.winds[draw] : plan.windOf(day);
         }
 
         /** How a SCARE FLAPS now: FOR_PAY, FOR_NOTHING or 0. */
@@ -966,7 +955,11 @@ public final class CrowRota {
             return windOn(s.day) >= plan.gust ? FOR_NOTHING : 0;
         }
 
-        /** Puts the NAMES for a SCARE of this SIGHT and GRADE. */
+        private int sightOf(int scare) {
+            return plan.sight[scare] + twist.sightMore;
+        }
+
+        /** Puts the NAMES of this HOUR for a SCARE of this SIGHT and GRADE. */
         private void stand(State s, int sight, int grade) {
             names[SIGHT] = sight;
             names[FAR] = 0;
@@ -975,10 +968,6 @@ public final class CrowRota {
             names[GRADE] = grade;
             names[RIPE] = 0;
             names[DATE] = s.day;
-        }
-
-        private void standAs(State s, int scare) {
-            stand(s, plan.sight[scare] + twist.sightMore, s.grade[scare]);
         }
 
         /** Whether who stands there SEES the CELL. */
@@ -992,7 +981,7 @@ public final class CrowRota {
 
         /** The CELLS (bits) that a SCARE SEES, whether it FLAPS or not. */
         int seenBy(State s, int scare) {
-            standAs(s, scare);
+            stand(s, sightOf(scare), s.grade[scare]);
             int row = memoRow < 0 ? NONE : (memoRow * SCARES + scare) * CELLS;
             int bits = 0;
             for (int cell = 0; cell < plan.cells(); cell++) {
@@ -1027,7 +1016,7 @@ public final class CrowRota {
         }
 
         long seeWorth(State s, int scare, int cell) {
-            standAs(s, scare);
+            stand(s, sightOf(scare), s.grade[scare]);
             names[FAR] = plan.distance(plan.at[scare], cell);
             names[RIPE] = s.crop[cell];
             return plan.laws[SEE].worth(names, stack);
@@ -1040,7 +1029,7 @@ public final class CrowRota {
         }
 
         long payWorth(State s, int scare) {
-            standAs(s, scare);
+            stand(s, sightOf(scare), s.grade[scare]);
             return plan.laws[PAY].worth(names, stack);
         }
 
@@ -1074,7 +1063,7 @@ public final class CrowRota {
         }
 
         /** One HOUR goes by. */
-        private void pass(State s) {
+        void pass(State s) {
             int seen = 0;
             for (int scare = 0; scare < plan.scares; scare++) {
                 int how = flapping(s, scare);
@@ -1106,8 +1095,10 @@ public final class CrowRota {
             }
         }
 
-        void passAll(State s, int n) {
-            for (int k = 0; k < n; k++) {
+        /** So many DAYS go by, the rest of today is the first. */
+        void passDays(State s, int n) {
+            int last = n * HOURS - s.hour;
+            for (int k = 0; k < last; k++) {
                 pass(s);
             }
         }
@@ -1223,8 +1214,8 @@ public final class CrowRota {
         /** Whether those of these that tell of so many HOURS are so. */
         boolean agree(int which, int after, State s) {
             for (int i = 0; i < size; i++) {
-                if ((which >> i & 1) != 0 && hours[i] == after
-                    && s.crop[about[i]] >= crop[i] != (kind[i] == AT_LEAST)) {
+                boolean asked = (which >> i & 1) != 0 && kind[i] != STRIKES && hours[i] == after;
+                if (asked && s.crop[about[i]] >= crop[i] != (kind[i] == AT_LEAST)) {
                     return false;
                 }
             }
@@ -1333,8 +1324,12 @@ public final class CrowRota {
             return NOT_SO;
         }
         tapeLength = 0;
-        if (!reader.read(sparePlan, n)) {
-            return NONE;
+        reader.start(sparePlan, n);
+        // a LINE takes two bytes at least
+        for (int line = 0; line < TAPE && !reader.atEnd(); line++) {
+            if (!reader.readLine()) {
+                return NONE;
+            }
         }
         Plan told = sparePlan;
         sparePlan = plan;
@@ -1477,7 +1472,9 @@ public final class CrowRota {
         if (n > 0) {
             steps.size = 0;
         }
-        hours.passAll(now, n);
+        for (int k = 0; k < n; k++) {
+            hours.pass(now);
+        }
         return now.hour;
     }
 
@@ -1486,13 +1483,8 @@ public final class CrowRota {
             return NONE;
         }
         trial.follow(now);
-        passDays(n);
+        hours.passDays(trial, n);
         return what == 0 ? trial.eaten : what == 1 ? trial.spent : trial.scared;
-    }
-
-    /** So many DAYS of the trial go by, the rest of its own is the first. */
-    private void passDays(int n) {
-        hours.passAll(trial, n * HOURS - trial.hour);
     }
 
     public int clash(int what) {
@@ -1592,12 +1584,12 @@ public final class CrowRota {
         }
         trial.follow(now);
         trial.strikes |= 1 << scare;
-        passDays(n);
+        hours.passDays(trial, n);
         int eaten = trial.eaten;
         int spent = trial.spent;
         trial.follow(now);
         trial.strikes &= ~(1 << scare);
-        passDays(n);
+        hours.passDays(trial, n);
         return Math.max(0, what == 0 ? eaten - trial.eaten : trial.spent - spent);
     }
 
@@ -1697,7 +1689,7 @@ public final class CrowRota {
             trial.rota[scare] = 1 << hour;
             boolean agreed = true;
             for (int after = 1; after <= NOTE_HOURS && agreed; after++) {
-                hours.passAll(trial, 1);
+                hours.pass(trial);
                 agreed = notes.agree(which, after, trial);
             }
             if (agreed) {
@@ -1722,7 +1714,7 @@ public final class CrowRota {
                 twist.winds[day] = (int) (last / 65536 % 10);
             }
             trial.follow(now);
-            passDays(n + 1);
+            hours.passDays(trial, n + 1);
             if (trial.eaten >= bound) {
                 times++;
             }
@@ -1743,7 +1735,7 @@ public final class CrowRota {
         twist.sightMore = what == 3 ? 1 : 0;
         twist.allFlap = what == 4;
         twist.allHours = what == 5;
-        passDays(n);
+        hours.passDays(trial, n);
         twist.clear();
         return trial.eaten;
     }
