@@ -1211,6 +1211,15 @@ public final class CrowRota {
             return bits;
         }
 
+        /** The most HOURS that one of these tells of. */
+        int lastHours(int which) {
+            int last = 0;
+            for (int i = 0; i < size; i++) {
+                last = (which >> i & 1) != 0 ? Math.max(last, hours[i]) : last;
+            }
+            return last;
+        }
+
         /** Whether those of these that tell of so many HOURS are so. */
         boolean agree(int which, int after, State s) {
             for (int i = 0; i < size; i++) {
@@ -1683,12 +1692,13 @@ public final class CrowRota {
             return NONE;
         }
         int which = notes.standing();
+        int last = notes.lastHours(which);
         int bits = 0;
         for (int hour = 0; hour < HOURS; hour++) {
             trial.begin(plan);
             trial.rota[scare] = 1 << hour;
             boolean agreed = true;
-            for (int after = 1; after <= NOTE_HOURS && agreed; after++) {
+            for (int after = 1; after <= last && agreed; after++) {
                 hours.pass(trial);
                 agreed = notes.agree(which, after, trial);
             }
