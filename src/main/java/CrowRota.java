@@ -471,7 +471,10 @@ public final class CrowRota {
             if (tokens.kind != Tokens.NUMBER) {
                 return fail(MISPLACED);
             }
-            return tokens.value < least || tokens.value > highest ? fail(TOO_MUCH) : true;
+            if (tokens.value < least || tokens.value > highest) {
+                return fail(TOO_MUCH);
+            }
+            return true;
         }
 
         private int take() {

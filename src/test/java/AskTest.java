@@ -146,6 +146,12 @@ public final class AskTest {
         Due.is("from hour 5 on", y.keeping(0, 1, 1), 20);
         y.strike(0, true);
         Due.is("on strike it keeps nothing", y.keeping(0, 1, 0), 0);
+        CrowRota w = Due.of("field 1 1;crop 0 0 99;crows 1;scare al 0 0 0 1 1;law see grade;");
+        Due.is("seen by grade", w.keeping(0, 1, 1), 9);
+        w.hat(0, 0);
+        Due.is("no more", w.keeping(0, 1, 1), 12);
+        w.undo();
+        Due.is("again", w.keeping(0, 1, 1), 9);
         CrowRota z = Due.of("field 1 1;scare al 0 0 0 1 1;most 0;");
         Due.is("most 0", z.keeping(0, 1, 0), 0);
         Due.is("most 0", z.keeping(0, 1, 1), 10);

@@ -181,6 +181,15 @@ public final class FaultTest {
         wrong("law see crop;", 1, 8);
         wrong("law see a;", 1, 8);
         wrong("law see 1 and;", 1, 13);
+        wrong("law see 1 or;", 1, 12);
+        wrong("law see not;", 1, 11);
+        wrong("law see 1<;", 1, 10);
+        wrong("law see 1+;", 1, 10);
+        wrong("law see 1-2-;", 1, 12);
+        wrong("law see 1*;", 1, 10);
+        wrong("law see 1/2/;", 1, 12);
+        wrong("law see (1+);", 1, 11);
+        wrong("law see (1 or 2 and);", 1, 19);
         wrong("law see or 1;", 1, 8);
         wrong("law see 1 or", 1, 12);
         wrong("law see 1 % 2;", 1, 10);

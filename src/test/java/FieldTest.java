@@ -202,6 +202,22 @@ public final class FieldTest {
             Due.is("grade with " + left, x.scare(1, 3), (left + 4) % 9);
         }
         Due.is("none left", x.undo(), CrowRota.NONE);
+        // the oldest of 21 falls out, whatever kind it and its followers are
+        x.strike(0, true);
+        x.hat(1, 9);
+        for (int h = 0; h < 6; h++) {
+            x.flap(1, h, true);
+            x.flap(0, h + 6, true);
+            x.hat(0, h + 4);
+        }
+        x.strike(1, false);
+        Due.is("20 of 21", x.count(15), 20);
+        for (int left = 19; left >= 0; left--) {
+            Due.is("left", x.undo(), left);
+        }
+        Due.is("the strike stays", x.scare(0, 5), 1);
+        Due.is("all else is undone", x.scare(1, 3) * 10 + x.scare(1, 5), 41);
+        Due.is("all else is undone", x.scare(0, 4) * 100 + x.scare(1, 4) * 10 + x.scare(0, 3), 20 * 100 + 3);
         x.hat(0, 1);
         Due.text(x, "scare al 0 0 1 2 3;");
         Due.is("a text", x.undo(), CrowRota.NONE);

@@ -26,9 +26,12 @@ public final class ModelTest {
     public static void main(String[] args) {
         for (int seed = 0; seed < 150; seed++) {
             ModelTest test = new ModelTest(seed);
-            test.tell();
-            for (int call = 0; call < 120; call++) {
-                test.call();
+            // several TEXTS to one object, so that what one leaves behind would be seen
+            for (int telling = 0; telling < 3; telling++) {
+                test.tell();
+                for (int call = 0; call < 60; call++) {
+                    test.call();
+                }
             }
         }
         Due.end();
@@ -52,8 +55,15 @@ public final class ModelTest {
             tryToTell();
         } while (text.length() > 700 || knots > 64);
         int lines = text.length() - text.replace(";", "").length();
+        if (r.nextInt(3) == 0 && lines > 0) {
+            Due.is("text without its end", Due.text(x, text.trim().substring(0, text.trim().length() - 1)), -1);
+        }
         Due.is("text " + text, Due.text(x, text), lines);
         m = told.twin();
+        image = null;
+        steps.clear();
+        notes.clear();
+        knownBy = -1;
     }
 
     private void tryToTell() {
