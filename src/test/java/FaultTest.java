@@ -9,6 +9,7 @@ public final class FaultTest {
         told();
         notAhead();
         laws();
+        cuts();
         stays();
         Due.end();
     }
@@ -194,6 +195,27 @@ public final class FaultTest {
         wrong("law see 1 or", 1, 12);
         wrong("law see 1 % 2;", 1, 10);
         wrong("law see (1", 1, 10);
+    }
+
+    /** What is behind the first n bytes of the TAPE isn't looked at. */
+    private static void cut(String text, int n, int fault, int place) {
+        CrowRota x = new CrowRota();
+        Due.feed(x, text);
+        Due.is("text " + text + " cut at " + n, x.text(n), fault == 0 ? 1 : CrowRota.NONE);
+        Due.is("fault(0) of " + text + " cut at " + n, x.fault(0), fault);
+        Due.is("fault(1) of " + text + " cut at " + n, x.fault(1), place);
+    }
+
+    private static void cuts() {
+        cut("law see 1<=2;", 10, 1, 10);
+        cut("law see 1<=2;", 11, 1, 11);
+        cut("law see 1 or 2;", 11, 1, 10);
+        cut("most 12;", 6, 1, 6);
+        cut("most 133;", 7, 2, 5);
+        cut("mostly;", 4, 1, 4);
+        cut("scare abcdefg", 12, 1, 12);
+        cut("most 1;;", 7, 0, CrowRota.NONE);
+        cut("most 1;\0", 7, 0, CrowRota.NONE);
     }
 
     /** With a FAULT all stays but the TAPE and the FAULT; -2 leaves these too. */

@@ -62,9 +62,12 @@ public final class NotesTest {
         x.note(1, 0, 10, false);
         Due.is("also those to come", x.count(14), 5);
         Due.is("less than 10 behind hour 0", x.fits(0), 4094);
+        x.known(2);
         Due.text(x, "scare al 0 0 0 1 1;");
-        x.note(1, 0, 0, true);
-        Due.is("a text: all known", x.count(14), 1);
+        for (int k = 1; k <= 3; k++) {
+            x.note(1, 0, 0, true);
+            Due.is("a text: all known", x.count(14), k);
+        }
     }
 
     private static void fitting() {
