@@ -89,10 +89,10 @@ public final class FormTest {
         CrowRota x = new CrowRota();
         all(x);
         long ahead = bean.getThreadAllocatedBytes(thread);
-        for (int turn = 0; turn < 20; turn++) {
+        for (int turn = 0; turn < 200; turn++) {
             all(x);
         }
-        Due.is("bytes of all calls", bean.getThreadAllocatedBytes(thread) - ahead < 2000, true);
+        Due.is("bytes of all calls", bean.getThreadAllocatedBytes(thread) - ahead < 4000, true);
         ahead = bean.getThreadAllocatedBytes(thread);
         new CrowRota();
         Due.is("bytes of an object", bean.getThreadAllocatedBytes(thread) - ahead < 60000, true);
