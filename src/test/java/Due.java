@@ -47,6 +47,43 @@ final class Due {
         return x;
     }
 
+    /** A new object reads this TEXT, all its bytes; the FAULT and its place are due behind it. */
+    static void wrong(String text, int fault, int place) {
+        CrowRota x = new CrowRota();
+        is("text " + text, text(x, text), CrowRota.NONE);
+        is("fault(0) of " + text, x.fault(0), fault);
+        is("fault(1) of " + text, x.fault(1), place);
+        is("tape of " + text, x.text(1), -2);
+    }
+
+    /** A new object reads this TEXT, all its bytes, without a FAULT; the object. */
+    static CrowRota right(String text, int lines) {
+        CrowRota x = new CrowRota();
+        is("text " + text, text(x, text), lines);
+        is("fault(0) of " + text, x.fault(0), 0);
+        is("fault(1) of " + text, x.fault(1), CrowRota.NONE);
+        return x;
+    }
+
+    static String times(String part, int n) {
+        StringBuilder all = new StringBuilder();
+        for (int i = 0; i < n; i++) {
+            all.append(part);
+        }
+        return all.toString();
+    }
+
+    /** What cell() answers; 1000 if it throws IndexOutOfBoundsException, 2000 if NoSuchElementException. */
+    static int cell(CrowRota x, int cell, int what) {
+        try {
+            return x.cell(cell, what);
+        } catch (IndexOutOfBoundsException e) {
+            return e.getClass() == IndexOutOfBoundsException.class ? 1000 : 3000;
+        } catch (java.util.NoSuchElementException e) {
+            return e.getClass() == java.util.NoSuchElementException.class ? 2000 : 4000;
+        }
+    }
+
     /** The letters of a word as named() takes them. */
     static int letters(String word) {
         int packed = 0;

@@ -14,46 +14,22 @@ public final class FaultTest {
         Due.end();
     }
 
-    private static String times(String line, int n) {
-        StringBuilder all = new StringBuilder();
-        for (int i = 0; i < n; i++) {
-            all.append(line);
-        }
-        return all.toString();
-    }
-
-    /** All bytes of the text are read; fault and place are due behind it. */
-    private static void wrong(String text, int fault, int place) {
-        CrowRota x = new CrowRota();
-        Due.is("text " + text, Due.text(x, text), CrowRota.NONE);
-        Due.is("fault(0) of " + text, x.fault(0), fault);
-        Due.is("fault(1) of " + text, x.fault(1), place);
-        Due.is("tape of " + text, x.text(1), -2);
-    }
-
-    private static void ok(String text, int lines) {
-        CrowRota x = new CrowRota();
-        Due.is("text " + text, Due.text(x, text), lines);
-        Due.is("fault(0) of " + text, x.fault(0), 0);
-        Due.is("fault(1) of " + text, x.fault(1), CrowRota.NONE);
-    }
-
     private static void right() {
-        ok("", 0);
-        ok(" \n ", 0);
-        ok("field 6 5;", 1);
-        ok("field\n0006 05 ;\n", 1);
-        ok("field6 1;most12;gust10;crows99;seed99999;", 5);
-        ok("crop 4 3 99;crop 0 0 0;", 2);
-        ok("scare zzzzzz 0 0 0 0 0;scare zzzzz 4 3 9 9 9;flap zzzzz 0 11;flap zzzzzz 11 11;", 4);
-        ok("wind 0;wind 9;wind 3;", 3);
-        ok(times("wind 1;", 14), 14);
-        ok("field 6 5;" + crops(16), 17);
-        ok(scares(6) + times("flap a 0 0;", 10), 16);
-        ok("law pay 9999;law see not not 1;law eat((((((((1))))))));", 3);
-        ok("law see 1<2 or 1<=2 and 1=2 or 1<>2 or 1>=2 or 1>2;", 1);
-        ok("law see 1" + times("+1", 31) + ";", 1);
-        ok("most 0;gust 0;crows 0;seed 0;", 4);
+        Due.right("", 0);
+        Due.right(" \n ", 0);
+        Due.right("field 6 5;", 1);
+        Due.right("field\n0006 05 ;\n", 1);
+        Due.right("field6 1;most12;gust10;crows99;seed99999;", 5);
+        Due.right("crop 4 3 99;crop 0 0 0;", 2);
+        Due.right("scare zzzzzz 0 0 0 0 0;scare zzzzz 4 3 9 9 9;flap zzzzz 0 11;flap zzzzzz 11 11;", 4);
+        Due.right("wind 0;wind 9;wind 3;", 3);
+        Due.right(Due.times("wind 1;", 14), 14);
+        Due.right("field 6 5;" + crops(16), 17);
+        Due.right(scares(6) + Due.times("flap a 0 0;", 10), 16);
+        Due.right("law pay 9999;law see not not 1;law eat((((((((1))))))));", 3);
+        Due.right("law see 1<2 or 1<=2 and 1=2 or 1<>2 or 1>=2 or 1>2;", 1);
+        Due.right("law see 1" + Due.times("+1", 31) + ";", 1);
+        Due.right("most 0;gust 0;crows 0;seed 0;", 4);
     }
 
     private static String crops(int n) {
@@ -73,128 +49,128 @@ public final class FaultTest {
     }
 
     private static void misplaced() {
-        wrong(";", 1, 0);
-        wrong("most 1;;", 1, 7);
-        wrong("a", 1, 0);
-        wrong("5;", 1, 0);
-        wrong("see 1;", 1, 0);
-        wrong("most;", 1, 4);
-        wrong("most a;", 1, 5);
-        wrong("most 1 2;", 1, 7);
-        wrong("most 1", 1, 6);
-        wrong("most 1  \n", 1, 9);
-        wrong("most", 1, 4);
-        wrong("mostly 1;", 1, 0);
-        wrong("Most 1;", 1, 0);
-        wrong("most\t1;", 1, 4);
-        wrong("most 1\r;", 1, 6);
-        wrong("most 1;\u00e9", 1, 7);
-        wrong("most -1;", 1, 5);
-        wrong("scare abcdefg 0 0 1 2 3;", 1, 6);
-        wrong("scare see 0 0 1 2 3;", 1, 6);
-        wrong("scare 0 0 1 2 3;", 1, 6);
-        wrong("scare a 0 0 1 2;", 1, 15);
-        wrong(SCARE + "flap date 1 2;", 1, 23);
-        wrong(SCARE + "flap a 1;", 1, 26);
-        wrong("law 1;", 1, 4);
-        wrong("law field 1;", 1, 4);
-        wrong("law sees 1;", 1, 4);
-        wrong("field 5;", 1, 7);
-        wrong("\0", 1, 0);
+        Due.wrong(";", 1, 0);
+        Due.wrong("most 1;;", 1, 7);
+        Due.wrong("a", 1, 0);
+        Due.wrong("5;", 1, 0);
+        Due.wrong("see 1;", 1, 0);
+        Due.wrong("most;", 1, 4);
+        Due.wrong("most a;", 1, 5);
+        Due.wrong("most 1 2;", 1, 7);
+        Due.wrong("most 1", 1, 6);
+        Due.wrong("most 1  \n", 1, 9);
+        Due.wrong("most", 1, 4);
+        Due.wrong("mostly 1;", 1, 0);
+        Due.wrong("Most 1;", 1, 0);
+        Due.wrong("most\t1;", 1, 4);
+        Due.wrong("most 1\r;", 1, 6);
+        Due.wrong("most 1;\u00e9", 1, 7);
+        Due.wrong("most -1;", 1, 5);
+        Due.wrong("scare abcdefg 0 0 1 2 3;", 1, 6);
+        Due.wrong("scare see 0 0 1 2 3;", 1, 6);
+        Due.wrong("scare 0 0 1 2 3;", 1, 6);
+        Due.wrong("scare a 0 0 1 2;", 1, 15);
+        Due.wrong(SCARE + "flap date 1 2;", 1, 23);
+        Due.wrong(SCARE + "flap a 1;", 1, 26);
+        Due.wrong("law 1;", 1, 4);
+        Due.wrong("law field 1;", 1, 4);
+        Due.wrong("law sees 1;", 1, 4);
+        Due.wrong("field 5;", 1, 7);
+        Due.wrong("\0", 1, 0);
     }
 
     private static void tooMuch() {
-        wrong("field 0 1;", 2, 6);
-        wrong("field 7 1;", 2, 6);
-        wrong("field 1 0;", 2, 8);
-        wrong("field 1 6;", 2, 8);
-        wrong("field 2 3;crop 2 0 1;", 2, 15);
-        wrong("field 2 3;crop 0 3 1;", 2, 17);
-        wrong("crop 0 0 100;", 2, 9);
-        wrong("scare a 5 0 1 2 3;", 2, 8);
-        wrong("scare a 0 4 1 2 3;", 2, 10);
-        wrong("scare a 0 0 10 2 3;", 2, 12);
-        wrong("scare a 0 0 1 10 3;", 2, 14);
-        wrong("scare a 0 0 1 2 10;", 2, 16);
-        wrong(SCARE + "flap a 12 12;", 2, 25);
-        wrong(SCARE + "flap a 0 12;", 2, 27);
-        wrong(SCARE + "flap a 5 4;", 2, 27);
-        wrong("most 13;", 2, 5);
-        wrong("crows 100;", 2, 6);
-        wrong("wind 10;", 2, 5);
-        wrong("gust 11;", 2, 5);
-        wrong("seed 100000;", 2, 5);
-        wrong("seed 99999999999999999999999999;", 2, 5);
-        wrong("field 6 5;" + crops(16) + "crop 0 4 1;", 2, 10 + 16 * 11);
-        wrong(scares(6) + "scare a", 2, 6 * 18);
-        wrong(SCARE + times("flap a 0 0;", 10) + "flap b 0 0;", 2, 18 + 110);
-        wrong(times("wind 1;", 14) + "wind 1;", 2, 98);
-        wrong("law see 10000;", 2, 8);
-        wrong("law see (((((((((1)))))))));", 2, 16);
-        wrong("law see ((((((((1)))))))) + (((((((((1", 2, 36);
-        wrong("law see 1" + times("+1", 31) + "+1;", 2, 72);
-        wrong("law see 1" + times("+1", 31) + ";law pay 1" + times("+1", 31) + ";", 2, 81);
-        wrong("law see " + times("not ", 65) + "1;", 2, 8 + 64 * 4);
-        wrong("law see 1" + times("+1", 31) + "+", 1, 72);
-        wrong("law see not 1" + times("+1", 31) + "+", 2, 75);
-        wrong("law see not 1" + times("+1", 31) + "<=", 2, 75);
-        wrong("law see not 1" + times("+1", 31) + " or", 2, 76);
-        wrong("law see 1" + times("+1", 31) + " 1;", 1, 72);
+        Due.wrong("field 0 1;", 2, 6);
+        Due.wrong("field 7 1;", 2, 6);
+        Due.wrong("field 1 0;", 2, 8);
+        Due.wrong("field 1 6;", 2, 8);
+        Due.wrong("field 2 3;crop 2 0 1;", 2, 15);
+        Due.wrong("field 2 3;crop 0 3 1;", 2, 17);
+        Due.wrong("crop 0 0 100;", 2, 9);
+        Due.wrong("scare a 5 0 1 2 3;", 2, 8);
+        Due.wrong("scare a 0 4 1 2 3;", 2, 10);
+        Due.wrong("scare a 0 0 10 2 3;", 2, 12);
+        Due.wrong("scare a 0 0 1 10 3;", 2, 14);
+        Due.wrong("scare a 0 0 1 2 10;", 2, 16);
+        Due.wrong(SCARE + "flap a 12 12;", 2, 25);
+        Due.wrong(SCARE + "flap a 0 12;", 2, 27);
+        Due.wrong(SCARE + "flap a 5 4;", 2, 27);
+        Due.wrong("most 13;", 2, 5);
+        Due.wrong("crows 100;", 2, 6);
+        Due.wrong("wind 10;", 2, 5);
+        Due.wrong("gust 11;", 2, 5);
+        Due.wrong("seed 100000;", 2, 5);
+        Due.wrong("seed 99999999999999999999999999;", 2, 5);
+        Due.wrong("field 6 5;" + crops(16) + "crop 0 4 1;", 2, 10 + 16 * 11);
+        Due.wrong(scares(6) + "scare a", 2, 6 * 18);
+        Due.wrong(SCARE + Due.times("flap a 0 0;", 10) + "flap b 0 0;", 2, 18 + 110);
+        Due.wrong(Due.times("wind 1;", 14) + "wind 1;", 2, 98);
+        Due.wrong("law see 10000;", 2, 8);
+        Due.wrong("law see (((((((((1)))))))));", 2, 16);
+        Due.wrong("law see ((((((((1)))))))) + (((((((((1", 2, 36);
+        Due.wrong("law see 1" + Due.times("+1", 31) + "+1;", 2, 72);
+        Due.wrong("law see 1" + Due.times("+1", 31) + ";law pay 1" + Due.times("+1", 31) + ";", 2, 81);
+        Due.wrong("law see " + Due.times("not ", 65) + "1;", 2, 8 + 64 * 4);
+        Due.wrong("law see 1" + Due.times("+1", 31) + "+", 1, 72);
+        Due.wrong("law see not 1" + Due.times("+1", 31) + "+", 2, 75);
+        Due.wrong("law see not 1" + Due.times("+1", 31) + "<=", 2, 75);
+        Due.wrong("law see not 1" + Due.times("+1", 31) + " or", 2, 76);
+        Due.wrong("law see 1" + Due.times("+1", 31) + " 1;", 1, 72);
     }
 
     private static void told() {
-        wrong("crop 1 2 1;crop 1 2 1;", 3, 18);
-        wrong("scare a 0 0 1 2 3;scare a 1 1 1 1 1;", 3, 24);
-        wrong("field 1 1;field 1 1;", 3, 10);
-        wrong("field 1 1;crop 0 0 1;field 1 1;", 3, 21);
-        wrong("most 1;most 1;", 3, 7);
-        wrong("crows 1;crows 1;", 3, 8);
-        wrong("gust 1;gust 1;", 3, 7);
-        wrong("seed 1;seed 1;", 3, 7);
-        wrong("law see 1;law see 1;", 3, 14);
-        wrong("law eat 1;law see 1;law eat 1;", 3, 24);
-        wrong("most 1;crop 0 0 1;most x", 3, 18);
+        Due.wrong("crop 1 2 1;crop 1 2 1;", 3, 18);
+        Due.wrong("scare a 0 0 1 2 3;scare a 1 1 1 1 1;", 3, 24);
+        Due.wrong("field 1 1;field 1 1;", 3, 10);
+        Due.wrong("field 1 1;crop 0 0 1;field 1 1;", 3, 21);
+        Due.wrong("most 1;most 1;", 3, 7);
+        Due.wrong("crows 1;crows 1;", 3, 8);
+        Due.wrong("gust 1;gust 1;", 3, 7);
+        Due.wrong("seed 1;seed 1;", 3, 7);
+        Due.wrong("law see 1;law see 1;", 3, 14);
+        Due.wrong("law eat 1;law see 1;law eat 1;", 3, 24);
+        Due.wrong("most 1;crop 0 0 1;most x", 3, 18);
     }
 
     private static void notAhead() {
-        wrong("flap a 0 0;", 4, 5);
-        wrong("flap a 0 0;" + SCARE, 4, 5);
-        wrong(SCARE + "flap b 0 0;", 4, 23);
-        wrong(SCARE + "flap aa 0 0;", 4, 23);
-        wrong("crop 0 0 1;field 5 4;", 4, 11);
-        wrong(SCARE + "field 5 4;", 4, 18);
-        wrong(SCARE + "flap abcdefg 0 0;", 1, 23);
+        Due.wrong("flap a 0 0;", 4, 5);
+        Due.wrong("flap a 0 0;" + SCARE, 4, 5);
+        Due.wrong(SCARE + "flap b 0 0;", 4, 23);
+        Due.wrong(SCARE + "flap aa 0 0;", 4, 23);
+        Due.wrong("crop 0 0 1;field 5 4;", 4, 11);
+        Due.wrong(SCARE + "field 5 4;", 4, 18);
+        Due.wrong(SCARE + "flap abcdefg 0 0;", 1, 23);
     }
 
     private static void laws() {
-        wrong("law see ;", 1, 8);
-        wrong("law see 1 2;", 1, 10);
-        wrong("law see (1;", 1, 10);
-        wrong("law see 1);", 1, 9);
-        wrong("law see ();", 1, 9);
-        wrong("law see 1<2<3;", 1, 11);
-        wrong("law see 1+not 2;", 1, 10);
-        wrong("law see 1< =2;", 1, 11);
-        wrong("law see 1=<2;", 1, 10);
-        wrong("law see 1<>=2;", 1, 11);
-        wrong("law see 1>>2;", 1, 10);
-        wrong("law see -1;", 1, 8);
-        wrong("law see crop;", 1, 8);
-        wrong("law see a;", 1, 8);
-        wrong("law see 1 and;", 1, 13);
-        wrong("law see 1 or;", 1, 12);
-        wrong("law see not;", 1, 11);
-        wrong("law see 1<;", 1, 10);
-        wrong("law see 1+;", 1, 10);
-        wrong("law see 1-2-;", 1, 12);
-        wrong("law see 1*;", 1, 10);
-        wrong("law see 1/2/;", 1, 12);
-        wrong("law see (1+);", 1, 11);
-        wrong("law see (1 or 2 and);", 1, 19);
-        wrong("law see or 1;", 1, 8);
-        wrong("law see 1 or", 1, 12);
-        wrong("law see 1 % 2;", 1, 10);
-        wrong("law see (1", 1, 10);
+        Due.wrong("law see ;", 1, 8);
+        Due.wrong("law see 1 2;", 1, 10);
+        Due.wrong("law see (1;", 1, 10);
+        Due.wrong("law see 1);", 1, 9);
+        Due.wrong("law see ();", 1, 9);
+        Due.wrong("law see 1<2<3;", 1, 11);
+        Due.wrong("law see 1+not 2;", 1, 10);
+        Due.wrong("law see 1< =2;", 1, 11);
+        Due.wrong("law see 1=<2;", 1, 10);
+        Due.wrong("law see 1<>=2;", 1, 11);
+        Due.wrong("law see 1>>2;", 1, 10);
+        Due.wrong("law see -1;", 1, 8);
+        Due.wrong("law see crop;", 1, 8);
+        Due.wrong("law see a;", 1, 8);
+        Due.wrong("law see 1 and;", 1, 13);
+        Due.wrong("law see 1 or;", 1, 12);
+        Due.wrong("law see not;", 1, 11);
+        Due.wrong("law see 1<;", 1, 10);
+        Due.wrong("law see 1+;", 1, 10);
+        Due.wrong("law see 1-2-;", 1, 12);
+        Due.wrong("law see 1*;", 1, 10);
+        Due.wrong("law see 1/2/;", 1, 12);
+        Due.wrong("law see (1+);", 1, 11);
+        Due.wrong("law see (1 or 2 and);", 1, 19);
+        Due.wrong("law see or 1;", 1, 8);
+        Due.wrong("law see 1 or", 1, 12);
+        Due.wrong("law see 1 % 2;", 1, 10);
+        Due.wrong("law see (1", 1, 10);
     }
 
     /** What is behind the first n bytes of the TAPE isn't looked at. */
