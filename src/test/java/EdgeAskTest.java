@@ -20,6 +20,7 @@ public final class EdgeAskTest {
         keepingInPlaceOfItsOwn();
         keepingOneBehindAnother();
         keepingMuch();
+        keepingFirstAndLastCell();
         keepingByAllRotas();
         allSeen();
         allSeenFewest();
@@ -289,6 +290,20 @@ public final class EdgeAskTest {
         Due.is("as it goes", x.ahead(3, 0), 16 * 99 + 140);
     }
 
+    /** First and last CELL, of alike CROP, and SCARES behind one another who SEE one of them, or none. */
+    private static void keepingFirstAndLastCell() {
+        for (int k = 0; k < 5; k++) {
+            StringBuilder text = new StringBuilder("field 6 5;crop 0 0 50;crop 5 4 50;law eat hour=5;");
+            for (int i = 0; i < 6; i++) {
+                text.append("scare ").append((char) ('a' + i)).append(i == k ? " 0 0 0 0 0;" : i == k + 1 ? " 3 3 0 0 0;" : " 5 4 0 0 0;");
+                text.append(i == k ? "" : "flap " + (char) ('a' + i) + " 0 11;");
+            }
+            CrowRota x = Due.of(text.toString());
+            Due.is("at HOUR 5", x.keeping(k, 1, 0) * 100 + x.keeping(k, 1, 1), 3200);
+            Due.is("the other can't", x.keeping(k + 1, 1, 0) * 100 + x.keeping(k + 1, 1, 1), 1);
+        }
+    }
+
     /** What is EATEN, if one has this ROTA by call. */
     private static int eaten(String told, int from, int scare, int bits, int n) {
         CrowRota x = new CrowRota();
@@ -305,7 +320,10 @@ public final class EdgeAskTest {
         String[] texts = {"field 3 2;crop 0 0 30;crop 2 1 28;crop 1 1 5;crows 3;scare al 0 0 1 0 0;scare bo 2 1 1 0 3;scare ce 1 0 0 0 1;"
             + "flap bo 2 4;flap ce 0 9;most 3;law eat (hour+3)*(wind+1)/4;wind 2;wind 5;",
             "field 3 2;crop 0 0 30;crop 1 0 29;crop 2 1 28;scare al 0 0 1 0 2;scare bo 2 1 1 0 1;scare ce 1 1 2 0 3;flap al 1 9;"
-            + "flap ce 5 6;law see ripe+grade*3>27+far*2-hour/3 or far<sight and date;law eat ripe/5;gust 4;wind 3;wind 4;most 2;"};
+            + "flap ce 5 6;law see ripe+grade*3>27+far*2-hour/3 or far<sight and date;law eat ripe/5;gust 4;wind 3;wind 4;most 2;",
+            "field 6 5;crop 0 0 99;crop 5 4 99;crop 1 0 98;crop 4 4 97;crop 0 1 96;crop 5 3 95;scare a 0 0 1 0 1;scare b 5 4 1 0 2;"
+            + "scare c 0 0 0 0 3;scare d 5 4 0 0 4;scare e 2 2 1 0 5;scare f 3 3 1 0 6;flap a 1 8;flap b 2 9;flap c 5 5;flap d 0 6;"
+            + "flap f 0 11;law see far*9+hour-grade<ripe-90+sight*9 or ripe=94-grade;law eat 1+hour/2+date;"};
         for (String told : texts) {
             int[][] asked = {{0, 0, 2}, {0, 1, 1}, {5, 2, 1}, {7, 0, 3}};
             for (int[] one : asked) {

@@ -131,6 +131,32 @@ public final class EdgeCallTest {
         }
         Due.is("scare 6", x.flap(6, 0, true) || x.strike(6, true) || x.hat(6, 1), false);
         Due.is("what can be undone", x.count(15), 18);
+        // as told, as it goes, in an IMAGE: the first as the last
+        String told = "field 6 1;crows 0;";
+        for (int i = 0; i < 6; i++) {
+            told += "scare " + (char) ('a' + i) + " " + i + " 0 " + i + " " + (9 - i) + " " + (i + 4) + ";";
+        }
+        CrowRota y = Due.of(told + "flap a 0 11;flap f 0 11;most 3;law pay grade*2;");
+        y.go(2);
+        Due.is("one more HOUR today of both", y.ahead(1, 1), 8 + 18);
+        Due.is("and three a DAY behind", y.ahead(2, 1), 4 * (8 + 18));
+        y.keep();
+        for (int i = 0; i < 6; i++) {
+            y.hat(i, i);
+            y.strike(i, true);
+            y.flap(i, 5, i % 5 != 0);
+        }
+        y.go(1);
+        for (int turn = 0; turn < 2; turn++) {
+            y.back();
+            for (int i = 0; i < 6; i++) {
+                int[] due = {i, i, 9 - i, i + 4, i % 5 == 0 ? 4095 : 0, 0, i % 5 == 0 ? 2 : 0, i % 5 == 0 ? 1 : 0};
+                for (int what = 0; what < 8; what++) {
+                    Due.is("scare " + i + ", what " + what, y.scare(i, what), due[what]);
+                }
+            }
+            y.go(30);
+        }
     }
 
     private static void undoNone() {

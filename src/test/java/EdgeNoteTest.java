@@ -458,6 +458,9 @@ public final class EdgeNoteTest {
         Due.is("al alone is on STRIKE still", z.scare(0, 5) * 10 + z.scare(1, 5), 10);
         Due.is("most is 12, on STRIKE or not", z.tried(5, 0, 1), 11);
         Due.is("all FLAP, on STRIKE or not", z.tried(4, 0, 1), 0);
+        CrowRota v = Due.of("field 1 1;crop 0 0 99;crows 1;scare al 0 0 0 1 1;flap al 0 11;most 3;");
+        Due.is("as it goes", v.ahead(1, 0), 9);
+        Due.is("most is 12: all HOURS of a DAY", v.tried(5, 0, 1), 0);
         // five others are there: SCARE 5 alone isn't
         CrowRota w = Due.of("field 1 1;crop 0 0 99;crows 1;scare a 0 0 0 0 0;scare b 0 0 0 0 0;scare c 0 0 0 0 0;scare d 0 0 0 0 0;"
             + "scare e 0 0 0 0 0;scare f 0 0 0 0 0;flap a 0 0;flap b 1 1;flap c 2 2;flap d 3 3;flap e 4 4;flap f 5 7;");

@@ -674,6 +674,12 @@ public final class EdgeTextTest {
         // a number beyond what is said and a 65th KNOT is 2 in any case
         Due.wrong(most + "1;law pay 10000;", 2, at + 10);
         Due.is("64 of not", Due.right("law see " + Due.times("not ", 63) + "1;", 1).count(5), 64);
+        Due.is("not 63 times", Due.right("law eat " + Due.times("not ", 63) + "7;", 1).law(1, 0, 0), 0);
+        Due.is("not 63 times", Due.right("law eat " + Due.times("not ", 63) + "0;", 1).law(1, 0, 0), 1);
+        Due.is("not, and 32 of 0", Due.right("law eat not 0" + Due.times("+0", 31) + ";", 1).law(1, 0, 0), 1);
+        Due.is("32 of 9", Due.right("law eat 9" + Due.times("+9", 31) + ";", 1).law(1, 0, 0), 32 * 9);
+        Due.is("32 of 9, each behind the others", Due.right("law eat 9" + Due.times("+(9", 8) + Due.times("+9", 23) + "))))))));", 1)
+            .law(1, 0, 0), 32 * 9);
         Due.wrong("law see " + Due.times("not ", 64) + "1;", 2, 8 + 64 * 4);
         CrowRota x = Due.right(most + "1;", 2);
         Due.is("a TEXT's KNOTS are its own", Due.text(x, most + "1;"), 2);
@@ -837,5 +843,32 @@ public final class EdgeTextTest {
         Due.wrong("law see 1+;law see 1;", 1, 10);
         Due.wrong("law see 1;law see +;", 3, 14);
         Due.wrong("law field;", 1, 4);
+        // a LINE of its word alone
+        String[] words = {"field", "crop", "scare", "flap", "most", "crows", "wind", "gust", "seed", "law"};
+        for (String word : words) {
+            Due.wrong(word + ";", 1, word.length());
+            Due.wrong(word + " ;", 1, word.length() + 1);
+            Due.wrong(word + " " + word + ";", 1, word.length() + 1);
+        }
+        Due.wrong("law see;", 1, 7);
+        Due.wrong("law eat;", 1, 7);
+        Due.wrong("law pay;", 1, 7);
+        Due.wrong("flap al;", 4, 5);
+        Due.wrong(AL + "flap al;", 1, 26);
+        Due.wrong(AL + "flap al 3;", 1, 28);
+        Due.wrong("field 3;", 1, 7);
+        Due.wrong("crop 3;", 1, 6);
+        Due.wrong("crop 3 3;", 1, 8);
+        Due.wrong("scare al;", 1, 8);
+        Due.wrong("scare al 3;", 1, 10);
+        Due.wrong("scare al 3 3;", 1, 12);
+        Due.wrong("scare al 3 3 3;", 1, 14);
+        Due.wrong("scare al 3 3 3 3;", 1, 16);
+        // and one with more than it has
+        Due.wrong("field 3 3 3;", 1, 10);
+        Due.wrong("crop 3 3 3 3;", 1, 11);
+        Due.wrong("scare al 3 3 3 3 3 3;", 1, 19);
+        Due.wrong(AL + "flap al 3 3 3;", 1, 31);
+        Due.wrong("wind 3 3;", 1, 7);
     }
 }

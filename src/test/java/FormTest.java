@@ -55,47 +55,84 @@ public final class FormTest {
         }
         Due.is("NONE", CrowRota.NONE, -1);
         Due.is("final", Modifier.isFinal(CrowRota.class.getModifiers()), true);
-        Due.is("classes", CrowRota.class.getDeclaredClasses().length <= 11, true);
+        Due.is("classes", CrowRota.class.getDeclaredClasses().length <= 12, true);
+        size(CrowRota.class);
         for (Class<?> inside : CrowRota.class.getDeclaredClasses()) {
-            Due.is(inside + " is private and static", Modifier.isPrivate(inside.getModifiers())
-                && Modifier.isStatic(inside.getModifiers()), true);
+            int is = inside.getModifiers();
+            Due.is(inside + " is out of reach", Modifier.isPublic(is) || Modifier.isProtected(is), false);
+            size(inside);
+        }
+    }
+
+    /** Some twenty fields a class beside its constants, seven parameters a method. */
+    private static void size(Class<?> one) {
+        int fields = 0;
+        for (Field f : one.getDeclaredFields()) {
+            fields += Modifier.isStatic(f.getModifiers()) || f.isSynthetic() ? 0 : 1;
+            Due.is("static " + f, Modifier.isStatic(f.getModifiers()) && !Modifier.isFinal(f.getModifiers()), false);
+        }
+        Due.is("fields of " + one, fields <= 22, true);
+        for (Method m : one.getDeclaredMethods()) {
+            Due.is("parameters of " + m, m.getParameterCount() <= 7, true);
+            Due.is("synchronized " + m, Modifier.isSynchronized(m.getModifiers()) || Modifier.isNative(m.getModifiers()), false);
         }
     }
 
     private static void source() throws IOException {
         String text = Files.readString(Path.of("src/main/java/CrowRota.java"));
         String code = text.replaceAll("(?s)/\\*.*?\\*/", "").replaceAll("//[^\n]*", "").replaceAll("\"[^\"]*\"", "\"\"");
-        String[] banned = {"->", "::", "Exact", "\\bcatch\\b", "\\bfinally\\b", "\\bassert\\b", "\\bsynchronized\\b", "@",
-            "\\bwhile\\s*\\(\\s*true", "\\bRandom\\b", "\\bSystem\\.(?!arraycopy)", "\\bString\\b(?! LANGUAGE)",
-            "\\bMath\\.(?!max|min|abs\\b)", "\\bInteger\\.(?!bitCount)", "\\bLong\\b", "\\bObject\\b", "\\bprotected\\b",
-            "\"\\s*\\+", "\\+\\s*\"", "\\binstanceof\\b"};
+        String[] banned = {"(?m)^(?!.*\\b(case|default)\\b).*->", "::", "Exact\\b", "\\bfinally\\b", "\\bassert\\b",
+            "\\bsynchronized\\b", "\\bpackage\\b", "\\bprotected\\b", "\\bgetMessage\\b", "\\bThread\\b", "\\bRandom\\b",
+            "\\b(Tree|Hash|Linked|Enum)?(Map|Set)\\b", "\\bSystem\\.(?!arraycopy)", "\\bMath\\.(sqrt|pow|random|sin|cos|log|exp|floor\\b|ceil)",
+            "\\bArrays\\.(?!copyOf|copyOfRange|fill)", "\\bwhile\\s*\\(\\s*true", "\\bfor\\s*\\(\\s*;\\s*;", "\"\\s*\\+", "\\+\\s*\"",
+            "\\bcatch\\s*\\([^)]*\\b(Exception|Throwable|Error|NullPointerException|ClassCastException|NegativeArraySizeException"
+                + "|ArrayStoreException|ArrayIndexOutOfBoundsException)\\b"};
         for (String word : banned) {
             Matcher m = Pattern.compile(word).matcher(code);
             Due.is("word " + word, m.find(), false);
         }
+        int highest = 0;
         for (char c : text.toCharArray()) {
-            if (c > 126) {
-                Due.is("sign", c, 126);
-            }
+            highest = Math.max(highest, c);
         }
-        int imports = code.split("import ").length - 1;
-        Due.is("imports", imports, 2);
+        Due.is("the highest sign, " + highest, highest <= 127, true);
+        Matcher imports = Pattern.compile("\\bimport\\s+([^;]*);").matcher(code);
+        while (imports.find()) {
+            Due.is("import " + imports.group(1),
+                imports.group(1).matches("java\\.util\\.(ArrayList|Arrays|Iterator|List|NoSuchElementException)"), true);
+        }
+        lengths(code.split("\n"));
     }
 
-    /** No call but the constructor makes anything (what an exception takes aside). */
+    /** Methods stay short (some sixty lines). */
+    private static void lengths(String[] lines) {
+        for (int i = 0; i < lines.length; i++) {
+            String line = lines[i];
+            String end = line.replaceAll("\\S.*", "") + "}";
+            if (line.matches("\\s+[\\w<>\\[\\] ]+\\([^;]*\\{") && !line.matches("\\s+(if|for|while|switch|else|do)\\b.*")) {
+                int n = 1;
+                while (i + n < lines.length && !lines[i + n].startsWith(end)) {
+                    n++;
+                }
+                Due.is(line.trim() + " has " + n + " lines", n <= 65, true);
+            }
+        }
+    }
+
+    /** A run's 600000 objects and 7.3 million fields and elements are enough for many objects and their 512 calls each. */
     private static void room() {
         com.sun.management.ThreadMXBean bean = (com.sun.management.ThreadMXBean) ManagementFactory.getThreadMXBean();
         long thread = Thread.currentThread().getId();
-        CrowRota x = new CrowRota();
-        all(x);
+        all(new CrowRota());
         long ahead = bean.getThreadAllocatedBytes(thread);
-        for (int turn = 0; turn < 200; turn++) {
-            all(x);
+        for (int object = 0; object < 50; object++) {
+            CrowRota x = new CrowRota();
+            for (int turn = 0; turn < 18; turn++) {
+                all(x);
+            }
         }
-        Due.is("bytes of all calls", bean.getThreadAllocatedBytes(thread) - ahead < 4000, true);
-        ahead = bean.getThreadAllocatedBytes(thread);
-        new CrowRota();
-        Due.is("bytes of an object", bean.getThreadAllocatedBytes(thread) - ahead < 60000, true);
+        // an element is four bytes, or eight
+        Due.is("bytes of 50 objects", bean.getThreadAllocatedBytes(thread) - ahead < 4 * 7300000, true);
     }
 
     private static void all(CrowRota x) {
