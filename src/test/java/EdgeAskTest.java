@@ -222,6 +222,9 @@ public final class EdgeAskTest {
         Due.is("three HOURS: nine are eaten", z.keeping(0, 1, 0) * 100 + z.keeping(0, 1, 1), 9);
         CrowRota w = Due.of("field 1 1;crop 0 0 0;scare al 0 0 0 1 1;");
         Due.is("nothing is there", w.keeping(0, 1, 0) * 100 + w.keeping(0, 1, 1), 0);
+        // one HOUR keeps as much as three of less bits, but not with one of them
+        CrowRota u = Due.of("field 1 1;crop 0 0 50;scare al 0 0 0 1 1;law eat (hour<4)*(1+(hour=3)*2);law see hour<3 or ripe=47;");
+        Due.is("the fewest HOURS, not the least bits", u.keeping(0, 1, 0) * 100 + u.keeping(0, 1, 1), 803);
         // three HOURS, of which one keeps a lot
         CrowRota v = Due.of("field 1 1;crop 0 0 99;scare al 0 0 0 1 1;law eat 1+(hour=5)*20+(hour=10)*10;");
         Due.is("hours 0, 5, 10", v.keeping(0, 1, 0), 1 | 32 | 1024);

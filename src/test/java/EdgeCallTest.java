@@ -406,7 +406,9 @@ public final class EdgeCallTest {
         x.note(1, 0, 0, true);
         x.known(0);
         x.keep();
+        Due.is("notes, known behind keep", x.count(13) * 10 + x.count(14), 10);
         x.note(1, 1, 11, true);
+        Due.is("known by 0 behind keep", x.count(14), 0);
         x.known(2);
         Due.is("a FAULT", Due.text(x, "   !"), NONE);
         Due.feed(x, "most 1;");

@@ -17,6 +17,7 @@ public final class EdgeHourTest {
         farInARow();
         seesByLaw();
         names();
+        namesByHats();
         namesOfTheLawAlone();
         truths();
         comparisons();
@@ -283,6 +284,24 @@ public final class EdgeHourTest {
         Due.is("the last WIND told", v.law(1, 0, 0), 9);
         v.go(1);
         Due.is("0 behind it", v.law(1, 0, 0), 0);
+    }
+
+    /** "grade of the SCARE": as it is by hats. */
+    private static void namesByHats() {
+        CrowRota x = Due.of("field 2 1;scare al 0 0 0 0 3;flap al 0 11;law see grade;law eat grade;law pay grade;");
+        int spent = 0;
+        int[] grades = {3, 0, 9, 5};
+        for (int grade : grades) {
+            x.hat(0, grade);
+            Due.is("see", x.law(0, 0, 1), grade);
+            Due.is("eat", x.law(1, 0, 1), 0);
+            Due.is("pay", x.law(2, 0, 1), grade);
+            Due.is("sees", x.sees(0, 1), grade == 0 ? 0 : 1);
+            x.go(1);
+            spent += grade;
+            Due.is("spent", x.count(10), spent);
+        }
+        Due.is("scared, but not with grade 0", x.count(11), 3);
     }
 
     /** "(of eat 0) ... (of eat, pay 0) ... (of pay 0)", whatever was asked ahead. */

@@ -296,6 +296,25 @@ public final class EdgeNoteTest {
         Due.is("WINDS as told: a gust on DAY 1", x.fits(0), 4095);
         x.note(24, 0, 40, true);
         Due.is("one more", x.fits(0), 0);
+        // others' STRIKES and hats by call weren't there at the TEXT
+        CrowRota y = Due.of(ONE + "scare bo 0 0 0 1 1;flap bo 3 3;law see grade=1;");
+        y.note(4, 0, 48, true);
+        int bits = y.fits(0);
+        Due.is("bo at HOUR 3, al at one ahead of it", bits, 7);
+        y.strike(1, true);
+        Due.is("bo on STRIKE by call", y.fits(0), bits);
+        y.strike(1, false);
+        y.hat(1, 5);
+        Due.is("bo's hat by call", y.fits(0), bits);
+        y.hat(0, 5);
+        Due.is("al's hat by call", y.fits(0), bits);
+        y.strike(0, true);
+        Due.is("al on STRIKE by call", y.fits(0), bits);
+        y.flap(0, 11, true);
+        y.flap(1, 3, false);
+        Due.is("the ROTA by call", y.fits(0), bits);
+        y.go(12);
+        Due.is("a DAY later", y.fits(0), bits);
     }
 
     private static void chanceWrong() {
@@ -458,6 +477,9 @@ public final class EdgeNoteTest {
         Due.is("al alone is on STRIKE still", z.scare(0, 5) * 10 + z.scare(1, 5), 10);
         Due.is("most is 12, on STRIKE or not", z.tried(5, 0, 1), 11);
         Due.is("all FLAP, on STRIKE or not", z.tried(4, 0, 1), 0);
+        z.strike(1, true);
+        Due.is("all FLAP, all on STRIKE", z.tried(4, 0, 1), 0);
+        Due.is("bo is on STRIKE still", z.tried(5, 0, 1), 12);
         CrowRota v = Due.of("field 1 1;crop 0 0 99;crows 1;scare al 0 0 0 1 1;flap al 0 11;most 3;");
         Due.is("as it goes", v.ahead(1, 0), 9);
         Due.is("most is 12: all HOURS of a DAY", v.tried(5, 0, 1), 0);
